@@ -387,7 +387,6 @@ public final class OnlyTwo {
             super(weight, time, hire, kind);
         }
 
-        @Override
         int minutes() {
             return 2 * time;
         }
@@ -398,7 +397,6 @@ public final class OnlyTwo {
             super(weight, time, hire, kind);
         }
 
-        @Override
         int weightFor(boolean evening, int more) {
             return evening ? weight + more : weight;
         }
@@ -409,7 +407,6 @@ public final class OnlyTwo {
             super(weight, time, hire, kind);
         }
 
-        @Override
         boolean isNeverSo(int number, int set, boolean night) {
             return number < 1 || !hasPorterIn(set, number - 1);
         }
@@ -420,7 +417,6 @@ public final class OnlyTwo {
             super(weight, time, hire, kind);
         }
 
-        @Override
         boolean isNeverSo(int number, int set, boolean night) {
             return night;
         }
@@ -431,7 +427,6 @@ public final class OnlyTwo {
             super(weight, time, hire, kind);
         }
 
-        @Override
         boolean isGuide() {
             return true;
         }

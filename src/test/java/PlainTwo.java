@@ -282,7 +282,7 @@ final class PlainTwo {
             End end = null;
             if (set == 64) {
                 end = best(t + 1, sides, band, lacking, known);
-            } else if (isSet(set) && (set & lacking) == 0 && ((sides & set) == 0 || (sides & set) == set)
+            } else if (Integer.bitCount(set) <= 2 && isSet(set) && (set & lacking) == 0 && ((sides & set) == 0 || (sides & set) == set)
                 && whyNot(set, t) == 0) {
                 End rest = best(t + timeOf(set), sides ^ set, band, lacking, known);
                 if (rest != null) {
@@ -436,7 +436,7 @@ final class PlainTwo {
         }
         int pairs = 0;
         for (int set = 1; set < 1 << before.size(); set++) {
-            pairs += whyNot(set, 0, false) == 0 ? 1 : 0;
+            pairs += Integer.bitCount(set) == 2 && whyNot(set, 0, false) == 0 ? 1 : 0;
         }
         s.porters = before;
         return pairs;

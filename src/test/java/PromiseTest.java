@@ -242,7 +242,9 @@ public final class PromiseTest {
         x.put(3, 9);
         x.load(4);
         Checks.typeAll(x, " porter 10 3 1 0 ;porter 014 4 2 5;night 0;more 20;go 0 1;go 0 1 0;go 239 1;");
+        c.due("least ahead of it", x.least(1, 0), 11);
         c.due("read", x.read(), 3);
+        c.due("least behind it", x.least(1, 0), 3);
         c.due("porters", x.count(0), 2);
         c.due("weight", x.of(1, 0, 0), 14);
         c.due("gap as at first", x.put(0, 2), 2);
@@ -259,7 +261,8 @@ public final class PromiseTest {
 
     private static void readFaults() {
         Object[][] faults = {
-            {"x", 0}, {"ga", 0}, {"gapp 1;", 0}, {"Gap 1;", 0}, {";", 0}, {" ;", 1}, {"5;", 0}, {"\t", 0}, {"gap 1;;", 6},
+            {"x", 0}, {"ga", 0}, {"gapp 1;", 0}, {"gapz 1;", 0}, {"agap 1;", 0}, {"ga{p 1;", 0}, {"gap{1;", 3}, {"gap`1;", 3}, {"gap/1;", 3},
+            {"gap 1:;", 5}, {"Gap 1;", 0}, {";", 0}, {" ;", 1}, {"5;", 0}, {"\t", 0}, {"gap 1;;", 6},
             {"gap", 3}, {"gap ", 4}, {"gap 1", 5}, {"gap 1  ", 7}, {"gap 1 1;", 6}, {"gap;", 3}, {"gap 21", 4},
             {"gap 0001;", 4}, {"gap 1234", 4}, {"gap 1!", 5}, {"gap!", 3}, {"gap gap", 4}, {"gap -1;", 4},
             {"gap 1;\u00ff", 6}, {"gap 1\u0000;", 5}, {"evening 240;", 8}, {"more 21;", 5}, {"night 241;", 6},
@@ -295,10 +298,25 @@ public final class PromiseTest {
         }
         c.due("twenty gos", Checks.readOf(gos.toString()), 20);
         c.due("a 21st at its word", Checks.readOf(gos + "go 0"), -10 - gos.length());
+        bytesBehindTheEnd();
         OnlyTwo x = Checks.dayOf("porter 1 1 1 1;go 50 0;");
         x.clear();
         Checks.typeAll(x, "porter 1 1 1 1;go 40 0;");
         c.due("the go ahead is of this text alone", x.read(), 1);
+    }
+
+    /** What an earlier text had behind this one's end, and a text that has no byte to spare. */
+    private static void bytesBehindTheEnd() {
+        OnlyTwo x = Checks.dayOf("gapx123;    ");
+        x.clear();
+        c.due("gap", Checks.typeAll(x, "gap"), 3);
+        c.due("no letter behind the end", x.read(), -13);
+        Checks.typeAll(x, " 1");
+        c.due("no figure behind the end", x.read(), -15);
+        c.due("the last is a letter", Checks.readOf(" ".repeat(197) + "gap"), -210);
+        c.due("the last is a figure", Checks.readOf(" ".repeat(195) + "gap 1"), -210);
+        c.due("the last is a blank", Checks.readOf("gap 1" + " ".repeat(195)), -210);
+        c.due("the last ends it", Checks.readOf(" ".repeat(194) + "gap 1;"), 0);
     }
 
     private static void judged() {
@@ -338,6 +356,7 @@ public final class PromiseTest {
         c.due("empty", x.least(0, 0), 0);
         c.due("empty", x.least(0, 1), 0);
         c.due("empty", x.least(0, 2), 0);
+        c.due("hire again", x.least(1, 1), 7);
         c.due("a porter changes it", x.porter(20, 1, 0, 0), 4);
         c.due("hire with another", x.least(1, 1), 2);
         c.due("band", x.least(32, 0), -2);
@@ -443,6 +462,8 @@ public final class PromiseTest {
         c.due("not unlike", x.turns(9, 6), 2);
         x.put(1, 0);
         c.due("evening in minute 0", x.turns(9, 6), 1);
+        x.put(1, 1);
+        c.due("evening in minute 1", x.turns(9, 6), 2);
         c.due("four in two turns", x.turns(15, 48), 2);
         c.due("alike", x.turns(3, 1), -2);
         c.due("band", x.turns(64, 0), -2);
@@ -504,10 +525,26 @@ public final class PromiseTest {
         y.put(2, 20);
         y.put(0, 20);
         c.due("heavy in minute 0", y.carries(-1), 2);
+        carriesHeavy();
         OnlyTwo z = new OnlyTwo();
         z.load(3);
         c.due("nobody there", z.carries(0), -1);
         c.due("nobody there", z.carries(-1), 0);
+    }
+
+    private static void carriesHeavy() {
+        OnlyTwo x = with(p(10, 1, 0, 2), p(10, 1, 0, 0), p(10, 1, 0, 5));
+        c.due("the guide with both", x.carries(-1), 2);
+        x.put(1, 1);
+        c.due("heavy from minute 1", x.carries(-1), 2);
+        x.put(1, 0);
+        c.due("heavy from minute 0", x.carries(-1), 3);
+        x.put(1, 120);
+        x.load(1);
+        x.load(2);
+        c.due("one load is enough", x.carries(-1), 3);
+        c.due("nobody has the first", x.carries(0), -1);
+        c.due("0 has the other", x.carries(1), 0);
     }
 
     private static void fell() {

@@ -2,7 +2,7 @@ import java.util.Random;
 
 /** Runs of random calls, ordinary and wrong ones, compared with PlainTwo. The seeds are fixed. */
 public final class RandomRunsTest {
-    private static final int RUNS = 1200, CALLS = 150;
+    private static final int RUNS = 400, CALLS = 150;
     private static final int[] EXTREMES = {Integer.MIN_VALUE, Integer.MAX_VALUE, -1, -2, 0, 6, 31, 32, 63, 64, 240, 241};
     private static final String[] WORDS = {"porter", "gap", "evening", "more", "night", "go", "x", "got"};
 
