@@ -2,7 +2,8 @@ import java.util.Random;
 
 /** Runs of random calls, ordinary and wrong ones, compared with PlainTwo. The seeds are fixed. */
 public final class RandomRunsTest {
-    private static final int RUNS = 400, CALLS = 150;
+    /** An object is promised for 512 calls; a step takes fewer than 80 of them. */
+    private static final int RUNS = 1300, CALLS = 512, CALLS_OF_STEP = 80;
     private static final int[] EXTREMES = {Integer.MIN_VALUE, Integer.MAX_VALUE, -1, -2, 0, 6, 31, 32, 63, 64, 240, 241};
     private static final String[] WORDS = {"porter", "gap", "evening", "more", "night", "go", "x", "got"};
 
@@ -12,6 +13,7 @@ public final class RandomRunsTest {
     private final Checks c;
     private final int run;
     private final int[] dimensions;
+    private int calls = 0;
 
     private RandomRunsTest(int run, Checks c) {
         this.run = run;
@@ -25,8 +27,8 @@ public final class RandomRunsTest {
         Checks c = new Checks();
         for (int run = 0; run < RUNS && c.wrong() == 0; run++) {
             RandomRunsTest test = new RandomRunsTest(run, c);
-            for (int i = 0; i < CALLS; i++) {
-                test.call();
+            while (test.calls + CALLS_OF_STEP <= CALLS) {
+                test.step();
             }
         }
         c.finish();
@@ -49,21 +51,23 @@ public final class RandomRunsTest {
     }
 
     private int set() {
-        return in(0, (1 << x.count(0)) - 1);
+        return in(0, (1 << y.count(0)) - 1);
     }
 
     private void due(String call, long got, long want) {
+        calls += 2;
         c.due("run " + run + ": " + call, got, want);
         c.due("run " + run + ": digest behind " + call, x.digest(), y.digest());
     }
 
-    private void call() {
+    private void step() {
         int how = random.nextInt(100);
         if (how < 45) {
             change(how);
         } else {
             ask(how);
         }
+        calls += 3;
         for (int what = 0; what < 3; what++) {
             c.due("run " + run + ": status " + what, x.status(what), y.status(what));
         }
@@ -102,7 +106,7 @@ public final class RandomRunsTest {
         int minute = in(0, 239);
         int what = in(0, 2);
         int i = in(-1, 5);
-        int p = in(0, Math.max(0, x.count(0) - 1));
+        int p = in(0, Math.max(0, y.count(0) - 1));
         switch ((how - 45) / 4) {
             case 0: due("of", x.of(p, minute, what), y.of(p, minute, what)); break;
             case 1: due("why(" + band + ", " + minute + ")", x.why(band, minute), y.why(band, minute)); break;
@@ -124,16 +128,25 @@ public final class RandomRunsTest {
         if (random.nextInt(4) == 0) {
             long v = random.nextLong();
             int n = in(1, 8);
-            due("type", x.type(v, n), y.type(v, n));
+            type(v, n);
             due("read", x.read(), y.read());
             return;
         }
         String text = day();
         due("clear", x.clear(), y.clear());
-        for (char b : text.toCharArray()) {
-            due("type", x.type(b, 1), y.type(b, 1));
+        for (int at = 0; at < text.length(); at += 8) {
+            String piece = text.substring(at, Math.min(at + 8, text.length()));
+            long v = random.nextLong();
+            for (char b : piece.toCharArray()) {
+                v = v << 8 | b;
+            }
+            type(v, piece.length());
         }
         due("read of '" + text + "'", x.read(), y.read());
+    }
+
+    private void type(long v, int n) {
+        due("type", x.type(v, n), y.type(v, n));
     }
 
     private String day() {
