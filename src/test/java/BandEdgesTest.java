@@ -58,6 +58,17 @@ public final class BandEdgesTest {
         e.leaves("NIGHT in the last minute", last, x -> x.least(1, 0), 240);
         e.leaves("no NIGHT", () -> Edges.put(last.get(), 3, 240), x -> x.least(1, 0), OnlyTwo.NONE);
         e.leaves("NIGHT 0", () -> Edges.put(last.get(), 3, 0), x -> x.least(1, 0), 1);
+        Supplier<OnlyTwo> alike = () -> {
+            OnlyTwo x = Edges.put(Edges.none(), 3, 234);
+            for (int i = 0; i < 6; i++) {
+                x.porter(30, 1, 1, 0);
+            }
+            return x;
+        };
+        e.leaves("all six by minute 240", alike, x -> x.least(63, 0), 240);
+        e.leaves("all six by minute 240, the last of them", alike, x -> x.row(63, 5), 239 * 64 + 32);
+        e.leaves("all six not by minute 240", () -> Edges.put(alike.get(), 3, 235), x -> x.least(63, 0), OnlyTwo.NONE);
+        e.leaves("five by minute 240", () -> Edges.put(alike.get(), 3, 235), x -> x.least(31, 0), 240);
         e.leaves("TIED 0 never", () -> Edges.with(Edges.p(10, 1, 0, 3), Edges.p(20, 1, 0, 0)), x -> x.least(1, 0), OnlyTwo.NONE);
         e.leaves("AFRAID alone never", () -> Edges.with(Edges.p(10, 1, 0, 4)), x -> x.least(1, 0), OnlyTwo.NONE);
         e.leaves("NONE is not refused", late, x -> x.least(1, 0), -1);
